@@ -106,6 +106,7 @@ public final class PathsTest {
         LatticeGestures g = Steps.withPath(1, 1, 2, 2, 3, 3, 4, 4);
         due.is("back 1", g.back(1), 3);
         due.row("the last one is away", Steps.points(g), 1, 1, 2, 2, 3, 3);
+        due.is("the run is shorter at once", g.run(0, 1), 2);
         due.refused(g, "back 0", Due.ARGUMENT, () -> g.back(0));
         due.refused(g, "back by more than there are", Due.ARGUMENT, () -> g.back(4));
         due.refused(g, "back by less than 0", Due.ARGUMENT, () -> g.back(MIN));
@@ -135,6 +136,7 @@ public final class PathsTest {
         LatticeGestures g = Steps.withPath(10, 10, 14, 10, 14, 10, 16, 12);
         due.is("turn 1", g.turn(1), 4);
         due.row("turned by 1", Steps.points(g), 10, 10, 14, 14, 14, 14, 14, 16);
+        due.row("the stroke is turned at once", Steps.stroke(g), 1, 2);
         due.is("turn 7", g.turn(7), 4);
         due.row("turned back", Steps.points(g), 10, 10, 14, 10, 14, 10, 16, 12);
         due.is("turn 4", g.turn(4), 4);

@@ -81,6 +81,8 @@ public final class WouldBeTest {
         Steps.commands(tie, "4", "0", "2");
         Steps.path(tie, 5, 5, 9, 9);
         due.is("of several the lowest", tie.against(), 1);
+        tie.begin();
+        due.is("at distance 3, above 2 times 1", tie.against(), -1);
         LatticeGestures none = Steps.withPath(5, 5, 9, 9);
         due.is("without commands", none.against(), -1);
         none.learn();
@@ -128,6 +130,9 @@ public final class WouldBeTest {
         due.is("straight", Steps.withPath(5, 5, 9, 5, 12, 5).straightness(), Float.floatToIntBits(1.0f));
         due.is("closed", Steps.withPath(5, 5, 9, 5, 5, 5).straightness(), 0);
         due.is("4 of 7", Steps.withPath(9, 9, 5, 9, 5, 6).straightness(), Float.floatToIntBits(4.0f / 7.0f));
+        due.is("4 of 6", Steps.withPath(20, 3, 17, 3, 16, 6).straightness(), Float.floatToIntBits(4.0f / 6.0f));
+        due.is("5 of 5", Steps.withPath(3, 20, 4, 21, 2, 25).straightness(), Float.floatToIntBits(5.0f / 5.0f));
+        due.is("4 of 8", Steps.withPath(25, 2, 23, 8, 25, 6).straightness(), Float.floatToIntBits(4.0f / 8.0f));
         due.is("3 of 5", Steps.withPath(9, 9, 8, 9, 9, 9, 9, 12).straightness(), Float.floatToIntBits(3.0f / 5.0f));
         LatticeGestures g = new LatticeGestures();
         for (int point = 0; point < 39; point++) {
@@ -168,6 +173,11 @@ public final class WouldBeTest {
         Steps.type(g, "0~!");
         due.is("of a full one", g.digest(), digestOf(g, "0~!"));
         due.is("again", g.digest(), digestOf(g, "0~!"));
+        LatticeGestures edge = Steps.withCommands("0");
+        edge.set(4, 1);
+        edge.point(20, 0);
+        due.is("only the point 31, 0 would be read", edge.ifPoint(31, 0) - edge.ifPoint(31, 1), 1);
+        due.is("that counts", edge.digest(), digestOf(edge, ""));
         g.set(1, 9);
         g.back(2);
         due.is("of a changed one", g.digest(), digestOf(g, "0~!"));

@@ -5,6 +5,7 @@ import java.lang.reflect.Constructor;
 import java.lang.reflect.Field;
 import java.lang.reflect.Method;
 import java.lang.reflect.Modifier;
+import java.nio.file.Files;
 import java.util.*;
 import javax.lang.model.element.Element;
 import javax.lang.model.element.ElementKind;
@@ -113,6 +114,11 @@ public final class LanguageTest {
     // ---- the source, by the compiler's tree
 
     private static void source(File file) throws Exception {
+        int strange = 0;
+        for (byte sign : Files.readAllBytes(file.toPath())) {
+            strange += sign > 0 ? 0 : 1;
+        }
+        due.is("signs beyond 1 to 127", strange, 0);
         JavaCompiler compiler = ToolProvider.getSystemJavaCompiler();
         try (StandardJavaFileManager files = compiler.getStandardFileManager(null, null, null)) {
             JavacTask task = (JavacTask) compiler.getTask(null, files, null, List.of("-proc:none"), null,
@@ -196,6 +202,7 @@ public final class LanguageTest {
         public Void visitMethod(MethodTree tree, Void nothing) {
             ExecutableElement outer = inside;
             inside = (ExecutableElement) trees.getElement(getCurrentPath());
+            good(tree.getName() + " bears the name of a public method", isOfFace(inside) || !isInFace(tree.getName()));
             calls.computeIfAbsent(inside, key -> new LinkedHashSet<>());
             long lines = line(trees.getSourcePositions().getEndPosition(unit, tree)) - line(tree) + 1;
             good(tree.getName() + " has " + lines + " lines", lines <= LONGEST_METHOD);
@@ -245,6 +252,19 @@ public final class LanguageTest {
             good("throw outside of the face in line " + line(tree),
                     inside.getModifiers().contains(javax.lang.model.element.Modifier.PUBLIC));
             return super.visitThrow(tree, nothing);
+        }
+
+        private static boolean isOfFace(ExecutableElement method) {
+            return method.getModifiers().contains(javax.lang.model.element.Modifier.PUBLIC);
+        }
+
+        private static boolean isInFace(CharSequence name) {
+            for (String told : FACE) {
+                if (told.contains(" " + name + "(")) {
+                    return true;
+                }
+            }
+            return false;
         }
 
         private boolean calledOfOwn(TypeElement owner) {

@@ -4,10 +4,15 @@ import java.util.Map;
 import java.util.Random;
 import java.util.TreeMap;
 
-/** Random runs of 512 calls (the same ones each time), compared with Model call by call. */
+/**
+ * Random runs (the same ones each time), compared with Model call by call. A run keeps to 512 calls:
+ * a digest stands behind each of its 249 calls, and behind each of 6 undos at last.
+ */
 public final class RandomRunsTest {
-    private static final int RUNS = 105;
-    private static final int CALLS = 512;
+    private static final int RUNS = 210;
+    private static final int CALLS = 249;
+    private static final int MOST_SAVED = 6;
+    private static final int UNDO = 12;
     private static final int[] WILD = {Integer.MIN_VALUE, Integer.MAX_VALUE, -1, -2, 8, 9, 10, 31, 32, 40, 60, 65536};
     private static final String[] KINDS = {"point", "go", "back", "begin", "turn", "learn", "read", "forget", "set",
             "append", "clearBuffer", "firstError", "undo", "pointOf", "run", "stroke", "strokeOf", "distance",
@@ -74,8 +79,8 @@ public final class RandomRunsTest {
     }
 
     private boolean isAsDue(int seed) {
-        for (int number = 0; number < CALLS; number++) {
-            Call call = nextCall();
+        for (int number = 0; number < CALLS + MOST_SAVED; number++) {
+            Call call = number < CALLS ? nextCall() : new Call(UNDO, 0, 0);
             String got = answer(true, call);
             String want = answer(false, call);
             if (!got.equals(want)) {

@@ -1,5 +1,8 @@
 /** Calls that tests make in rows. */
 final class Steps {
+    private static final int[] X = {1, 1, 0, -1, -1, -1, 0, 1};
+    private static final int[] Y = {0, 1, 1, 1, 0, -1, -1, -1};
+
     private Steps() {
     }
 
@@ -32,6 +35,54 @@ final class Steps {
 
     static LatticeGestures withCommands(String... strokes) {
         return commands(new LatticeGestures(), strokes);
+    }
+
+    /** Steps of the length 2 in each direction (a digit of the text), from 15, 15 without points. */
+    static LatticeGestures draw(LatticeGestures gestures, String directions) {
+        if (gestures.count(0) == 0) {
+            gestures.point(15, 15);
+        }
+        int last = gestures.count(0) - 1;
+        int x = gestures.pointOf(last, 0);
+        int y = gestures.pointOf(last, 1);
+        for (int i = 0; i < directions.length(); i++) {
+            int direction = directions.charAt(i) - '0';
+            x += 2 * X[direction];
+            y += 2 * Y[direction];
+            gestures.point(x, y);
+        }
+        return gestures;
+    }
+
+    static LatticeGestures drawn(String directions) {
+        return draw(new LatticeGestures(), directions);
+    }
+
+    /** 40 points, from 3, 3 around a square of the side 2, so that there are 39 runs. */
+    static LatticeGestures fullPath() {
+        LatticeGestures gestures = new LatticeGestures();
+        for (int point = 0; point < 40; point++) {
+            int corner = point % 4;
+            gestures.point(corner == 1 || corner == 2 ? 5 : 3, corner >= 2 ? 5 : 3);
+        }
+        return gestures;
+    }
+
+    /** Ten commands that are far enough from one another with nothing forgiven. */
+    static LatticeGestures tenCommands() {
+        LatticeGestures gestures = new LatticeGestures();
+        gestures.set(4, 0);
+        return commands(gestures, "0", "1", "2", "3", "4", "5", "6", "7", "02", "04");
+    }
+
+    /** A buffer of 60 characters. */
+    static LatticeGestures fullBuffer() {
+        return type(new LatticeGestures(), "0123456".repeat(9).substring(0, 60));
+    }
+
+    /** 6 saved states, and 7 points in a row. */
+    static LatticeGestures sixSaved() {
+        return withPath(1, 1, 2, 1, 3, 1, 4, 1, 5, 1, 6, 1, 7, 1);
     }
 
     static int[] points(LatticeGestures gestures) {

@@ -11,6 +11,7 @@ import javax.lang.model.element.Element;
 import javax.lang.model.element.ElementKind;
 import javax.lang.model.element.ExecutableElement;
 import javax.lang.model.element.TypeElement;
+import javax.lang.model.element.VariableElement;
 import javax.tools.JavaCompiler;
 import javax.tools.StandardJavaFileManager;
 import javax.tools.ToolProvider;
@@ -51,7 +52,8 @@ public final class LanguageTest {
             "IndexOutOfBoundsException");
     private static final Set<Tree.Kind> RULED_OUT = EnumSet.of(Tree.Kind.LAMBDA_EXPRESSION, Tree.Kind.MEMBER_REFERENCE,
             Tree.Kind.SYNCHRONIZED, Tree.Kind.ASSERT, Tree.Kind.TRY, Tree.Kind.IMPORT, Tree.Kind.PACKAGE,
-            Tree.Kind.ANNOTATION, Tree.Kind.TYPE_CAST);
+            Tree.Kind.ANNOTATION, Tree.Kind.TYPE_CAST, Tree.Kind.WHILE_LOOP, Tree.Kind.DO_WHILE_LOOP);
+    private static final Set<String> NUMBERS = Set.of("int", "long");
     private static final int LONGEST_METHOD = 60;
     private static final int MOST_PARAMETERS = 7;
     private static final int DEEPEST = 8;
@@ -160,6 +162,7 @@ public final class LanguageTest {
         private final Map<ExecutableElement, Set<ExecutableElement>> calls = new LinkedHashMap<>();
         private int classes;
         private ExecutableElement inside;
+        private String insideText = "";
 
         Rules(Trees trees, CompilationUnitTree unit) {
             this.trees = trees;
@@ -201,7 +204,9 @@ public final class LanguageTest {
         @Override
         public Void visitMethod(MethodTree tree, Void nothing) {
             ExecutableElement outer = inside;
+            String outerText = insideText;
             inside = (ExecutableElement) trees.getElement(getCurrentPath());
+            insideText = tree.toString();
             good(tree.getName() + " bears the name of a public method", isOfFace(inside) || !isInFace(tree.getName()));
             calls.computeIfAbsent(inside, key -> new LinkedHashSet<>());
             long lines = line(trees.getSourcePositions().getEndPosition(unit, tree)) - line(tree) + 1;
@@ -209,7 +214,54 @@ public final class LanguageTest {
             good("parameters of " + tree.getName(), tree.getParameters().size() <= MOST_PARAMETERS);
             super.visitMethod(tree, nothing);
             inside = outer;
+            insideText = outerText;
             return null;
+        }
+
+        @Override
+        public Void visitArrayAccess(ArrayAccessTree tree, Void nothing) {
+            String length = tree.getExpression() + ".length";
+            good("an index that is not compared with the length, in line " + line(tree),
+                    insideText.contains(tree.getIndex() + " < " + length)
+                            || insideText.contains(tree.getIndex() + " >= " + length));
+            return super.visitArrayAccess(tree, nothing);
+        }
+
+        @Override
+        public Void visitAssignment(AssignmentTree tree, Void nothing) {
+            if (tree.getVariable() instanceof ArrayAccessTree cell) {
+                Element array = trees.getElement(new TreePath(getCurrentPath(), cell.getExpression()));
+                good("a change of a static array in line " + line(tree),
+                        !array.getModifiers().contains(javax.lang.model.element.Modifier.STATIC));
+            }
+            return super.visitAssignment(tree, nothing);
+        }
+
+        @Override
+        public Void visitBinary(BinaryTree tree, Void nothing) {
+            boolean isNumber = trees.getTypeMirror(getCurrentPath()).getKind().isPrimitive();
+            good("texts joined by + in line " + line(tree), isNumber);
+            if (tree.getKind() == Tree.Kind.DIVIDE || tree.getKind() == Tree.Kind.REMAINDER) {
+                good("a divisor that is not tested in line " + line(tree), isTested(tree.getRightOperand()));
+            }
+            return super.visitBinary(tree, nothing);
+        }
+
+        /** A divisor is a constant, or the method leaves ahead of it if it is not above 0. */
+        private boolean isTested(ExpressionTree divisor) {
+            ExpressionTree bare = divisor instanceof TypeCastTree cast ? cast.getExpression() : divisor;
+            Element named = trees.getElement(new TreePath(getCurrentPath(), bare));
+            boolean isConstant = named instanceof VariableElement constant && constant.getConstantValue() != null
+                    && !constant.getConstantValue().equals(0);
+            boolean isNumber = bare instanceof LiteralTree literal && !literal.getValue().equals(0);
+            return isConstant || isNumber || insideText.contains("if (" + bare + " <= 0) {");
+        }
+
+        @Override
+        public Void visitForLoop(ForLoopTree tree, Void nothing) {
+            String condition = String.valueOf(tree.getCondition());
+            good("a loop without a bound in line " + line(tree), condition.matches("\\w+ (<|<=|>|>=) .+"));
+            return super.visitForLoop(tree, nothing);
         }
 
         @Override
@@ -221,6 +273,10 @@ public final class LanguageTest {
             } else if (called.getKind() != ElementKind.CONSTRUCTOR) {
                 String name = owner.getSimpleName() + "." + called.getSimpleName();
                 good(name + " in line " + line(tree), LIBRARY.contains(name));
+                for (VariableElement parameter : ((ExecutableElement) called).getParameters()) {
+                    good(name + " of other numbers than int and long in line " + line(tree),
+                            NUMBERS.contains(parameter.asType().toString()));
+                }
             }
             return super.visitMethodInvocation(tree, nothing);
         }
